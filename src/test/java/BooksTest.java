@@ -6,7 +6,7 @@ public final class BooksTest {
     private static void seen() {
         Check.that("16 seen: each PIECE ahead of what is in it, none in a STRUCK PART", c -> {
             int a = c.part(0);
-            int in = c.x.put(0, 0, a, -1, 1);
+            int in = c.part(0, a);
             int deep = c.sentence(0, in);
             int behind = c.sentence(0, a);
             int last = c.picture(0, -1, 2);

@@ -1,3 +1,5 @@
+import java.util.HashMap;
+import java.util.Map;
 import java.util.function.Consumer;
 
 /** One case after the other: prints 'PASS name' or, with what was wrong, 'FAIL name'. */
@@ -28,6 +30,8 @@ final class Check {
     static final class Case {
         final BookHouse x = new BookHouse();
         private final Check check;
+        // by the PART; asking the house would take too many of the 512 calls
+        private final Map<Integer, Integer> lastPut = new HashMap<>();
         private int calls = 0;
 
         private Case(Check check) {
@@ -36,11 +40,19 @@ final class Check {
 
         void due(long want, long got) {
             calls++;
-            if (got == want) return;
+            if (got != want) wrong("answered " + got + ", due is " + want);
+        }
+
+        void wrong(String what) {
             check.wrong++;
-            StackTraceElement[] trace = new Throwable().getStackTrace();
-            System.out.println("  line " + trace[1].getLineNumber() + ", check " + calls + ": answered " + got
-                + ", due is " + want);
+            System.out.println("  " + lineOfTheTest() + ", check " + calls + ": " + what);
+        }
+
+        private static String lineOfTheTest() {
+            for (StackTraceElement at : new Throwable().getStackTrace()) {
+                if (at.getClassName().endsWith("Test")) return at.getFileName() + " line " + at.getLineNumber();
+            }
+            return "no test's line";
         }
 
         void due(boolean so) {
@@ -52,19 +64,23 @@ final class Check {
             for (int w : row) x.word(hand, w);
         }
 
-        /** A PART, SENTENCE or PICTURE in the BOOK behind all that stands there. */
+        /** A PART, SENTENCE or PICTURE behind the one that was put there last. */
         int part(int hand) {
-            return x.put(hand, 0, -1, lastIn(hand, -1), 1);
+            return part(hand, -1);
+        }
+
+        int part(int hand, int under) {
+            return putLast(hand, 0, under, 1);
         }
 
         int sentence(int hand, int under, int... row) {
-            int p = x.put(hand, 1, under, lastIn(hand, under), 1);
+            int p = putLast(hand, 1, under, 1);
             if (row.length > 0) say(hand, p, row);
             return p;
         }
 
         int picture(int hand, int under, int high) {
-            return x.put(hand, 2, under, lastIn(hand, under), high);
+            return putLast(hand, 2, under, high);
         }
 
         int say(int hand, int p, int... row) {
@@ -72,21 +88,16 @@ final class Check {
             return x.words(hand, p);
         }
 
-        /** The last PIECE right in a PART as a HAND has it: the one that no other is behind. */
+        /** The PIECE that was put last into a PART, and, if it was not moved since, is the last one there. */
         int lastIn(int hand, int under) {
-            int last = -1;
-            boolean more = true;
-            while (more) {
-                more = false;
-                for (int p = 0; p < x.told(0); p++) {
-                    if (x.piece(hand, p, 0) == 1 && x.piece(hand, p, 3) == under && x.piece(hand, p, 4) == last) {
-                        last = p;
-                        more = true;
-                        break;
-                    }
-                }
-            }
-            return last;
+            int last = lastPut.getOrDefault(under, -1);
+            return x.piece(hand, last, 0) == 1 ? last : -1;
+        }
+
+        private int putLast(int hand, int sort, int under, int high) {
+            int p = x.put(hand, sort, under, lastIn(hand, under), high);
+            lastPut.put(under, p);
+            return p;
         }
 
         /** The WORDS of a SENTENCE are these. */

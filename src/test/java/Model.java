@@ -113,6 +113,11 @@ final class Model {
 
     // ---- sets and books
 
+    /** What no call does: see Gaps. */
+    void takeAway(int hand, int change) {
+        hands.get(hand).remove(Integer.valueOf(change));
+    }
+
     private boolean noHand(int hand) {
         return hand < 0 || hand > 5;
     }

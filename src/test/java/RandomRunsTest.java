@@ -15,8 +15,10 @@ public final class RandomRunsTest {
     // .. while a few PIECES are moved, struck and told anew by several hands at once
     private static final int[] MOVING = {30, 12, 12, 70, 14, 2, 2, 24, 60, 3, 2, 0, 10, 10, 1, 10, 2, 0, 6, 6, 24, 0,
         0, 0, 1, 0, 0, 0, 0, 0, 0, 1, 0, 0, 0, 0, 1, 0};
-    private static final int[][] MAKING = {MANY, LONG, MOVING};
-    private static final int[] MAKING_CALLS = {350, 220, 260};
+    private static final int[][] MAKING = {MANY, LONG, MOVING, MANY};
+    private static final int[] MAKING_CALLS = {350, 220, 260, 350};
+    // HANDS lose CHANGES of others, so that what needs these WAITS
+    private static final int GAPS = 3;
     // .. when it is asked about
     private static final int[] ASKED = {30, 6, 4, 8, 10, 3, 5, 8, 16, 2, 1, 4, 6, 6, 5, 12, 10, 10, 6, 10, 8, 2, 5, 8, 2,
         6, 6, 8, 4, 2, 6, 4, 10, 12, 12, 10, 14, 2};
@@ -260,6 +262,15 @@ public final class RandomRunsTest {
         return call;
     }
 
+    private void takeAway(BookHouse house, Model model) {
+        int hand = upTo(hands);
+        int change = upTo(model.told(0) + 1);
+        // its own it keeps, or two of its CHANGES could have the same STAMP
+        if (model.change(change, 1) == hand || model.told(0) == change) return;
+        Gaps.takeAway(house, hand, change);
+        model.takeAway(hand, change);
+    }
+
     private boolean isAlike(long run) {
         BookHouse house = new BookHouse();
         Model model = new Model();
@@ -267,6 +278,7 @@ public final class RandomRunsTest {
         for (int k = 0; k < CALLS; k++) {
             int call = aCall(k < MAKING_CALLS[style] ? MAKING[style] : ASKED);
             int[] a = arguments(call, model);
+            if (style == GAPS && oneIn(12)) takeAway(house, model);
             String text = NAMES[call] + java.util.Arrays.toString(a);
             long want = ofModel(model, call, a);
             long got = ofHouse(house, call, a);
@@ -290,6 +302,7 @@ public final class RandomRunsTest {
         runs("runs of calls on books of many hands answer as the model does", 0, count);
         runs("runs of calls on long books answer as the model does", 1, count);
         runs("runs of calls that move a few pieces answer as the model does", 2, count);
+        runs("runs of calls on sets with gaps answer as the model does", GAPS, count);
         Check.end();
     }
 }
