@@ -57,6 +57,28 @@ public final class BooksEdgesTest {
         });
     }
 
+    private static void stamps() {
+        Check.that("book: what was made last may be the first by STAMPS", c -> {
+            int later = c.x.put(1, 1, -1, -1, 1);
+            int sooner = c.x.put(0, 1, -1, -1, 1);
+            c.x.give(0, 1, 60);
+            c.dueSeen(1, later, sooner);
+            int third = c.x.put(2, 1, -1, -1, 1);
+            c.x.give(2, 1, 60);
+            c.dueSeen(1, third, later, sooner);
+            c.x.put(0, 1, -1, -1, 1);
+            c.x.give(0, 1, 60);
+            c.dueSeen(1, third + 1, third, later, sooner);
+        });
+        Check.that("book: counts go ahead of HANDS: 5 with count 1 is ahead of 0 with count 2", c -> {
+            int a = c.x.put(0, 1, -1, -1, 1);
+            int b = c.x.put(0, 1, -1, -1, 1);
+            int d = c.x.put(5, 1, -1, -1, 1);
+            c.x.give(5, 0, 60);
+            c.dueSeen(0, b, d, a);
+        });
+    }
+
     private static void moves() {
         Check.that("book: MOVE to where it is, and of the last one behind all", c -> {
             int part = c.part(0);
@@ -214,6 +236,68 @@ public final class BooksEdgesTest {
             c.dueWords(0, s, 2);
             c.due(1, c.x.piece(0, s, 1));
         });
+    }
+
+    private static void leaves() {
+        Check.that("book: each CHANGE leaves of its PIECE what it does not tell, and of others all", c -> {
+            // what piece() tells of 1 in the order of its numbers, then of KINDS 1 to 6 what becomes other
+            int[] before = {1, 0, 1, 0, -1, 0, 3, 2, 5, 1};
+            int[][] others = {{}, {1, 1, 2, 0}, {3, -1, 4, 0, 9, 0}, {6, 2}, {7, 3}, {8, 0}, {}};
+            for (int kind = 1; kind <= 6; kind++) {
+                int[] due = before.clone();
+                for (int k = 0; k < others[kind].length; k += 2) due[others[kind][k]] = others[kind][k + 1];
+                int made = kind;
+                Replay house = HOUSE.then(x -> make(x, made));
+                for (int what = 0; what < 10; what++) {
+                    int asked = what;
+                    house.due(c, due[what], x -> x.piece(0, 1, asked));
+                    if (what != 4 && what != 5) {
+                        house.due(c, new int[] {1, 0, 1, 4, 0, 0, 2, 0, -1, 2}[what], x -> x.piece(0, 5, asked));
+                    }
+                }
+                for (int i = 0; i < 3 && kind != 3; i++) {
+                    int word = i;
+                    house.due(c, 5 + i, x -> x.at(0, 1, word, 0));
+                    house.due(c, 6, x -> x.at(0, 1, word, 1));
+                }
+            }
+        });
+        Check.that("book: a PART that moves takes with it what is in it, in its order", c -> {
+            int a = c.part(0);
+            int b = c.part(0);
+            int s = c.sentence(0, a, 1);
+            int t = c.sentence(0, a, 2);
+            c.x.move(0, a, b, -1);
+            c.dueSeen(0, b, a, s, t);
+            c.due(2, c.x.piece(0, s, 9));
+            c.due(s, c.x.piece(0, t, 4));
+            c.dueWords(0, t, 2);
+        });
+        Check.that("book: from nothing on: what was asked of another SOURCE leaves nothing", c -> {
+            int s = c.sentence(0, -1);
+            c.x.keep(0);
+            c.say(0, s, 1, 2);
+            c.x.note(0, s, 3);
+            c.x.tie(0, s, s);
+            c.x.strike(0, s);
+            int[] due = {1, 0, 1, -1, -1, 0, 0, 0, -1, 0};
+            int[] other = {1, 1, 0, -1, -1, 0, 2, 3, s, 0};
+            for (int what = 0; what < 10; what++) {
+                c.due(other[what], c.x.piece(0, s, what));
+                c.due(due[what], c.x.piece(10, s, what));
+                c.due(what == 0 ? 0 : LOST + STATE, c.x.piece(1, s, what));
+            }
+        });
+    }
+
+    /** A CHANGE of this KIND upon 1, by hand 0. */
+    private static void make(BookHouse x, int kind) {
+        if (kind == 1) x.strike(0, 1);
+        if (kind == 2) x.move(0, 1, -1, 0);
+        if (kind == 3) x.words(0, 1);
+        if (kind == 4) x.note(0, 1, 3);
+        if (kind == 5) x.tie(0, 1, 0);
+        if (kind == 6) x.settle(0, 1, 4, 10);
     }
 
     private static void who() {
@@ -502,8 +586,10 @@ public final class BooksEdgesTest {
 
     public static void main(String[] args) {
         puts();
+        stamps();
         moves();
         strikes();
+        leaves();
         who();
         sources();
         seen();

@@ -1,3 +1,4 @@
+import java.util.List;
 import java.util.function.ToLongFunction;
 
 /** Edges of promises 1 to 15: what is still taken, what is refused, in which order, and that it changes nothing. */
@@ -95,6 +96,27 @@ public final class ChangesEdgesTest {
         HOUSE.due(c, NEXT, call);
         ONE_LEFT.due(c, 59, call);
         ALL_MADE.refused(c, FULL, call);
+    }
+
+    private static void made() {
+        Check.that("made: a HAND has its own CHANGE at once, others have it not; its number is the next one", c -> {
+            List<ToLongFunction<BookHouse>> calls = List.of(x -> x.put(0, 0, -1, -1, 1), x -> x.strike(0, 0),
+                x -> x.move(0, 2, -1, -1), x -> x.words(0, 2), x -> x.note(0, 2, 1), x -> x.tie(0, 2, 0),
+                x -> x.back(0, 16), x -> x.settle(0, 1, 1, 1));
+            for (ToLongFunction<BookHouse> call : calls) {
+                Replay after = HOUSE.then(call::applyAsLong);
+                after.due(c, NEXT + 1, x -> x.told(0));
+                after.due(c, 16, x -> x.told(10));
+                after.due(c, 16, x -> x.told(11));
+                after.due(c, 0, x -> x.came(0, NEXT));
+                after.due(c, NONE, x -> x.came(1, NEXT));
+                after.due(c, NONE, x -> x.came(10, NEXT));
+                after.due(c, 0, x -> x.change(NEXT, 1));
+                // it is the 16th of hand 0, which has no others'
+                after.due(c, 16, x -> x.change(NEXT, 2));
+                after.due(c, NEXT + 1, x -> x.put(0, 0, -1, -1, 1));
+            }
+        });
     }
 
     private static void put() {
@@ -390,6 +412,7 @@ public final class ChangesEdgesTest {
     public static void main(String[] args) {
         newObject();
         word();
+        made();
         put();
         strike();
         move();

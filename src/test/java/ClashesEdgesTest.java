@@ -71,6 +71,19 @@ public final class ClashesEdgesTest {
                 c.due(0, c.x.say(1, next[k]));
             }
         });
+        Check.that("say: STRIKES and RAISES that the SOURCE has not take it from none", c -> {
+            int s = c.sentence(0, -1);
+            int strike = c.x.strike(0, s);
+            c.x.give(0, 1, 60);
+            int raise = c.x.back(1, strike);
+            c.due(1, c.x.say(0, strike));
+            c.due(0, c.x.say(1, strike));
+            int again = c.x.strike(1, s);
+            c.due(1, c.x.say(0, strike));
+            c.due(0, c.x.say(0, again));
+            c.due(1, c.x.say(1, again));
+            c.due(0, c.x.say(1, raise));
+        });
         Check.that("say: RAISE never", c -> {
             int s = c.sentence(0, -1);
             int strike = c.x.strike(0, s);
@@ -81,8 +94,8 @@ public final class ClashesEdgesTest {
         });
     }
 
-    private static void dueBack(Check.Case c, int move, int piece, int under, int behind) {
-        int b = c.x.back(0, move);
+    private static void dueBack(Check.Case c, int hand, int move, int piece, int under, int behind) {
+        int b = c.x.back(hand, move);
         c.due(piece, c.x.change(b, 3));
         c.due(under, c.x.change(b, 4));
         c.due(behind, c.x.change(b, 5));
@@ -114,10 +127,10 @@ public final class ClashesEdgesTest {
             int s = c.sentence(0, a);
             int t = c.sentence(0, a);
             c.x.strike(0, s);
-            dueBack(c, c.x.move(0, a, -1, -1), a, -1, -1);
-            dueBack(c, c.x.move(0, t, -1, -1), t, a, s);
+            dueBack(c, 0, c.x.move(0, a, -1, -1), a, -1, -1);
+            dueBack(c, 0, c.x.move(0, t, -1, -1), t, a, s);
             c.due(1, c.x.piece(0, s, 1));
-            dueBack(c, c.x.move(0, s, -1, a), s, a, -1);
+            dueBack(c, 0, c.x.move(0, s, -1, a), s, a, -1);
             c.dueSeen(0, a, s, t);
         });
         Check.that("back: just ahead of it as that BOOK is worked: by STAMPS, of what the HAND has alone", c -> {
@@ -134,6 +147,14 @@ public final class ClashesEdgesTest {
             c.due(1, c.x.say(2, late));
             c.due(0, c.x.say(2, between));
             c.due(2, c.x.change(c.x.back(2, late), 4));
+        });
+        Check.that("back: a CHANGE of others that the HAND has not is no neighbour, be it the very first", c -> {
+            c.sentence(0, -1);
+            int part = c.x.put(1, 0, -1, -1, 1);
+            int in = c.x.put(1, 1, part, -1, 1);
+            int last = c.x.put(1, 1, -1, in, 1);
+            c.due(part, c.x.piece(1, last, 4));
+            dueBack(c, 1, c.x.move(1, last, part, -1), last, -1, part);
         });
         Check.that("back: of WORDS to none, to eight; the PAD stays as it is", c -> {
             int s = c.sentence(0, -1);

@@ -158,6 +158,25 @@ public final class EditionsEdgesTest {
             c.due(1, c.x.reach(1, 0, 1));
             c.due(0, c.x.reach(1, 0, 0));
         });
+        Check.that("38 reach: the very first PIECE: gone, SAID otherwise, with another number", c -> {
+            int s = c.x.put(0, 1, -1, -1, 1);
+            int p = c.x.put(0, 2, -1, s, 9);
+            int q = c.x.put(0, 2, -1, p, 9);
+            c.say(0, s, 1);
+            c.x.tie(0, s, q);
+            c.x.edition(0, 0, 10, 10);
+            c.x.tie(0, s, p);
+            c.due(1, c.x.reach(0, 0, 2));
+            c.due(0, c.x.reach(0, 0, 1));
+            c.say(0, s, 2);
+            c.due(1, c.x.reach(0, 0, 1));
+            c.due(0, c.x.reach(0, 0, 0));
+            c.x.strike(0, s);
+            c.due(1, c.x.reach(0, 0, 0));
+            c.due(0, c.x.reach(0, 0, 1));
+            c.due(0, c.x.reach(0, 0, 2));
+            c.due(1, c.x.reach(0, 0, 3));
+        });
         Check.that("38 reach: another number of the same TIE, and a TIE to another page; not one to the same page", c -> {
             int part = c.part(0);
             int s = c.sentence(0, part);

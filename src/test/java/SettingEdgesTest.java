@@ -384,12 +384,34 @@ public final class SettingEdgesTest {
         });
     }
 
+    private static void index() {
+        Check.that("setting: a WORD is on the page of its LINE, whatever stands on the LINES ahead", c -> {
+            BookHouse x = parts(7);
+            int s = x.put(0, 1, -1, 6, 1);
+            // 2 2 2, 7, 7 2, 2 wide: three LINES on page 1, one on page 2
+            Houses.words(x, 0, s, 1, 8, 15, 6, 13, 22, 29);
+            x.edition(0, 0, 10, 10);
+            int[] counts = {3, 1, 2, 1};
+            for (int i = 0; i < 4; i++) c.due(counts[i], x.line(0, s, i));
+            int[] words = {1, 8, 15, 6, 13, 22, 29};
+            for (int k = 0; k < 7; k++) {
+                c.due(1, x.index(0, words[k], -1));
+                c.due(k < 6 ? 1 : 2, x.index(0, words[k], 0));
+            }
+            x.move(0, s, -1, 4);
+            x.put(0, 2, -1, 4, 4);
+            x.edition(0, 0, 10, 10);
+            for (int k = 0; k < 7; k++) c.due(k < 3 ? 1 : 2, x.index(1, words[k], 0));
+        });
+    }
+
     public static void main(String[] args) {
         lines();
         pages();
         ties();
         rounds();
         said();
+        index();
         Check.end();
     }
 }

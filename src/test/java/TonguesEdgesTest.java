@@ -165,6 +165,15 @@ public final class TonguesEdgesTest {
                 c.due(costs[k], c.x.offer(1, 0, s, 1));
             }
         });
+        Check.that("29 offer: asked for the first time, of one WORD: a dearer PAIR ahead of a cheaper one", c -> {
+            int s = c.sentence(0, -1, 9);
+            lead(c, 1, s, 50);
+            c.say(0, s, 1, 2);
+            lead(c, 1, s, 51);
+            c.say(0, s, 1);
+            c.due(1, c.x.offer(1, 0, s, 0));
+            c.due(1, c.x.offer(1, 0, s, 1));
+        });
         Check.that("29 offer: the first of several, of 24", c -> {
             int s = c.sentence(0, -1, 1);
             int t = c.sentence(0, -1, 2, 3);

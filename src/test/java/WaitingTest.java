@@ -69,6 +69,16 @@ public final class WaitingTest {
             c.dueSeen(1);
             c.due(251, c.x.digest(1));
         });
+        Check.that("14 came: a STRIKE that WAITS has no SAY, though it is the latest", c -> {
+            int s = c.sentence(0, -1);
+            int strike = c.x.strike(0, s);
+            c.x.give(0, 1, 60);
+            c.due(1, c.x.say(1, strike));
+            Gaps.takeAway(c.x, 1, s);
+            dueCame(c, 1, WAITS, strike);
+            c.due(NO, c.x.back(1, strike));
+            c.due(2, c.x.told(0));
+        });
         Check.that("14 came: a MOVE WAITS, if the PART is not THERE: place, being STRUCK and SAY stay", c -> {
             int a = c.part(0);
             int b = c.part(0);
