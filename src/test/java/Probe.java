@@ -3,7 +3,7 @@ import java.util.List;
 import java.util.function.Consumer;
 import java.util.function.ToLongFunction;
 
-/** All that can be asked of a house, to see whether two of them are the same. */
+/** Questions to a house, of every call that asks, to see whether two of them are the same. */
 final class Probe {
     // with the calls that make the house, far from the 512 that an object is used for
     private static final int CALLS_OF_ONE = 300;
